@@ -123,6 +123,8 @@ final class Check {
         for (int i = 0; i < 400 && (i == 0 || house.count(5) + house.state(9) + house.state(10) > 0); i++) {
             house.ticks(40);
         }
+        // what was still under way
+        house.ticks(40);
     }
 
     /** The first CELLS of a row of the terminal, without ATTRIBUTES, up to the last that is no BLANK. */
