@@ -14,6 +14,7 @@ public final class DescriptionsTest {
         usable();
         abilities();
         nothingChanges();
+        cutTapes();
         Check.finish("DescriptionsTest");
     }
 
@@ -148,6 +149,8 @@ public final class DescriptionsTest {
         text("a,\n use=b\n", 9, 8);
         text("a,\n use=b\u0001", 1, 9);
         text("a,\n use=abcdefghijklm,\n", 2, 8);
+        text("a,\n use=abcdefghijkl,\n", 9, 8);
+        text("abcdefghijkl,\nb,\n use=abcdefghijkl,\n", 0, -1);
         text("a,\nb,\n use=a\n", 1, 12);
         text("a,\nb,\n use=c,\nc,\n", 9, 11);
         text("a,\nb,\n use=a, use=a, use=a, use=a,\n", 0, -1);
@@ -216,7 +219,7 @@ public final class DescriptionsTest {
             text("a,\n ed=" + s.replace("%^", "%\\^") + ",\n", 0, -1);
         }
         String[] wrong = {"%", "x%", "%1d", "%4d", "%2", "%2x", "%0d", "%00d", "%04d", "%02", "%02x", "%022d",
-            "%p", "%p0", "%p5", "%'", "%'x", "%'xy'", "%''", "%{", "%{}", "%{1", "%{123456}", "%{32768}",
+            "%p", "%p0", "%p5", "%'", "%'x", "%'xy'", "%''", "%{", "%{}", "%{1", "%{123456}", "%{000001}", "%{32768}",
             "%{1x}", "%{-1}", "%t", "%e", "%;", "%?", "%?%;", "%?%e%;", "%?%t", "%?%t%t%;", "%?%t%e%e%;",
             "%?%t%e", "%?%t%;%;", "%?%?%?%?%?%t%;%t%;%t%;%t%;%t%;", "%D", "%a", "% d", "%s", "%?%?%t%;%;",
             "\\045", "%\\001"};
@@ -345,6 +348,21 @@ public final class DescriptionsTest {
         Check.due("expand of a flag", Check.expand(house, "xenl", 0, 0, 0, 0), -1);
         Check.due("expand of a number", Check.expand(house, "cols", 0, 0, 0, 0), -1);
         Check.due("tape", house.count(13), 0);
+    }
+
+    /** What the tape had behind its end is not looked at. */
+    private static void cutTapes() {
+        String text = "abcd|ef,\n am, cols#123, bel=x\\E%d^A\\101$<1>y,\n";
+        for (int n = 0; n <= text.length(); n++) {
+            TerminalHouse house = new TerminalHouse(4, 16, 1);
+            Check.feed(house, text);
+            house.end(n);
+            int answer = house.describe();
+            // whole are the first line, what ends with a comma, and BLANKS behind it
+            boolean isWhole = n >= 8 && n <= 10 || n == 13 || n == 14 || n == 23 || n == 24 || n >= text.length() - 1;
+            Check.due("cut at " + n, answer, n == 0 ? 0 : isWhole ? 1 : -1);
+            Check.due("the place is at the end at most", house.fault(1) <= n, true);
+        }
     }
 
     private static void nothingChanges() {

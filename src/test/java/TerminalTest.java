@@ -222,6 +222,8 @@ public final class TerminalTest {
         cursor(after(set + to(3, 1) + ESC + "[9B"), 3, 0, 0);
         cursor(after(set + to(1, 1) + ESC + "[9B"), 3, 0, 0);
         cursor(after(set + to(5, 1) + ESC + "[9B"), 4, 0, 0);
+        cursor(after(set + to(4, 1) + ESC + "[9B"), 3, 0, 0);
+        cursor(after(set + to(2, 1) + ESC + "[9A"), 1, 0, 0);
     }
 
     private static void origin() {
@@ -277,6 +279,9 @@ public final class TerminalTest {
         cursor(after(to(2, 12) + ESC + "#6"), 1, 7, 0);
         cursor(after("0123456789abcdef" + ESC + "#6"), 0, 7, 0);
         TerminalHouse house = after(ESC + "#601234567");
+        cursor(house, 0, 7, 1);
+        // not set anew, so it stays
+        Check.does(house, ESC + "#3");
         cursor(house, 0, 7, 1);
         Check.does(house, "8");
         rows(house, "01234567", "8");
@@ -494,6 +499,8 @@ public final class TerminalTest {
         answer(ESC + "[n", "");
         answer(ESC + "[6n", ESC + "[1;1R");
         answer(to(5, 16) + ESC + "[6n", ESC + "[5;16R");
+        answer(to(5, 9) + ESC + "[6n", ESC + "[5;9R");
+        answer(to(5, 10) + ESC + "[6n", ESC + "[5;10R");
         answer(ESC + "[2;4r" + ESC + "[?6h" + to(2, 3) + ESC + "[6n", ESC + "[2;3R");
         answer(ESC + "7" + ESC + "[3;4r" + ESC + "[?6h" + ESC + "7" + ESC + "[4;5r" + ESC + "8" + ESC + "[6n",
             ESC + "[1;1R");

@@ -66,6 +66,8 @@ public final class WindowsTest {
         }
         Check.due("where -1", house.where(5, -1), -1);
         Check.say(house, 3, "ab");
+        house.scrolls(3, true);
+        house.dress(3, 7);
         Check.due("close", house.close(3), true);
         Check.due("close again", house.close(3), false);
         Check.due("windows", house.count(4), 7);
@@ -73,6 +75,8 @@ public final class WindowsTest {
         Check.due("the lowest is given", house.open(0, 0, 2, 2), 3);
         rowsAre(house, 3, "..", "..");
         cursorIs(house, 3, 0, 0);
+        Check.due("it does not scroll", house.where(3, 7), 0);
+        Check.due("attributes", house.where(3, 6), 0);
     }
 
     private static void wrongWindows() {
@@ -142,6 +146,10 @@ public final class WindowsTest {
         Check.due("the last cell", Check.say(house, 0, "ijkl"), 2);
         rowsAre(house, 0, "abcd", "Z...", "ghij");
         cursorIs(house, 0, 2, 3);
+        house.at(0, 2, 1);
+        Check.due("10 does nothing there", Check.say(house, 0, "\n"), 0);
+        rowsAre(house, 0, "abcd", "Z...", "ghij");
+        house.at(0, 2, 3);
         Check.due("the last cell again", Check.say(house, 0, "kl"), 1);
         rowsAre(house, 0, "abcd", "Z...", "ghik");
         house.scrolls(0, true);
