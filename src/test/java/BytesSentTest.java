@@ -155,6 +155,9 @@ public final class BytesSentTest {
         test.house.at(0, 0, 0);
         // rows go up alone: what is no more wanted is rolled away
         test.sends("C30IIC20threeC30fourC00");
+        // all rows are unlike, but for one when it is rolled
+        test = type(cup).say(0, "one\ntwo\nthree\nfour").sends("oneC10twoC20threeC30four").at(0, 0);
+        test.say(0, "two\nx\ny\nz   ").sends("C30IC10x    C20y   C30zC34");
         test = type("clear=, cup=C%p1%d%p2%d,").say(0, "one\ntwo").sends("oneC10two");
         test.house.roll(0, 1);
         test.sends("C00twoC10   ");
@@ -162,7 +165,8 @@ public final class BytesSentTest {
 
     private static void otherTypes() {
         BytesSentTest test = type("clear=, cup=C%p1%d%p2%d, sgr0=Z, bold=<b>, it#8, ht=T,").say(1, "a").sends("Z<b>aZ");
-        Check.describe(test.house, "v,\n cols#10, lines#3, clear=L, cup=D%p1%d%p2%d, it#2, sgr0=Y,\n");
+        test.say(0, "\u0007");
+        Check.describe(test.house, "v,\n cols#10, lines#3, clear=L, cup=D%p1%d%p2%d, it#2, sgr0=Y, bel=G,\n");
         Check.due("use", Check.use(test.house, "v"), 0);
         Check.due("open", test.house.open(0, 0, 3, 10), 0);
         test.say(1, "b").sends("YLb").at(0, 8).sends("D08").at(2, 9).sends("D29");

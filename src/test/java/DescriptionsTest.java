@@ -115,6 +115,9 @@ public final class DescriptionsTest {
         text("a,\n amm=,\n", 4, 4);
         text("a,\n xyz!\n", 4, 4);
         text("a,\n use,\n", 4, 4);
+        text("a,\n uxe=a,\n", 4, 4);
+        text("a,\n xse=a,\n", 4, 4);
+        text("a,\n usx=a,\n", 4, 4);
         text("a,\n use@,\n", 4, 4);
         text("a,\n use#1,\n", 4, 4);
         text("a,\n use\n", 4, 4);
@@ -190,6 +193,7 @@ public final class DescriptionsTest {
         text("a,\n bel=\\1", 10, 8);
         text("a,\n bel=\\1\u0001", 1, 10);
         text("a,\n bel=\\12\u0001", 1, 11);
+        text("a,\n bel=\\7\u0001", 1, 10);
         text("a,\n bel=^a,\n", 10, 8);
         text("a,\n bel=^,,\n", 10, 8);
         text("a,\n bel=^>,\n", 10, 8);
@@ -226,6 +230,12 @@ public final class DescriptionsTest {
         for (String s : wrong) {
             text("a,\n ed=" + s + ",\n", 8, 7);
         }
+        // what an earlier string had is no part of this one
+        text("a,\n ed=%p1%d, el=%p,\n", 8, 17);
+        text("a,\n ed=%02d, el=%02,\n", 8, 16);
+        text("a,\n ed=%'x', el=%'x,\n", 8, 16);
+        text("a,\n ed=%{12}, el=%{12,\n", 8, 17);
+        text("a,\n ed=%?%t%;, el=%?%t%,\n", 8, 18);
         text("a,\n ed=%", 8, 7);
         text("a,\n ed=%x\n", 8, 7);
         text("a,\n ed=%\u0001,\n", 1, 8);
@@ -372,7 +382,11 @@ public final class DescriptionsTest {
         Check.due("fault", Check.describe(house, "u,\n xenl," + SCREEN + "v,\n am\n"), -1);
         Check.due("entries", house.count(1), 1);
         Check.due("u is not there", Check.use(house, "u"), -1);
+        Check.due("fault(0)", house.fault(0), 1);
+        Check.due("fault(1)", house.fault(1) > 0, true);
         Check.due("u is free", Check.describe(house, "u,\n" + SCREEN), 2);
+        Check.due("fault(0)", house.fault(0), 0);
+        Check.due("fault(1)", house.fault(1), -1);
         Check.due("t is as it was", Check.ability(house, "am"), 1);
         Check.due("use", Check.use(house, "u"), 0);
         Check.due("u has no xenl", Check.ability(house, "xenl"), 0);

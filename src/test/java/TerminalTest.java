@@ -97,6 +97,9 @@ public final class TerminalTest {
         cursor(after(full + "\b"), 0, 14, 0);
         cursor(after(full + "\t"), 0, 15, 1);
         cursor(after(full + "\n"), 1, 15, 0);
+        cursor(after(ESC + "[5H" + full + "\n"), 4, 15, 0);
+        cursor(after(full + ESC + "M"), 0, 15, 0);
+        cursor(after("\n" + full + ESC + "M"), 0, 15, 0);
         cursor(after(full + ESC + "[C"), 0, 15, 0);
         cursor(after(full + ESC + "[A"), 0, 15, 0);
         cursor(after(full + ESC + "[K"), 0, 15, 1);
@@ -324,6 +327,10 @@ public final class TerminalTest {
         String margins = ESC + "[2;4r" + to(3, 3);
         rows(after(set + margins + ESC + "[L"), "aaaa", "bbbb", "", "cccc", "eeee");
         rows(after(set + margins + ESC + "[M"), "aaaa", "bbbb", "dddd", "", "eeee");
+        rows(after(set + margins + to(4, 3) + ESC + "[L"), "aaaa", "bbbb", "cccc", "", "eeee");
+        rows(after(set + margins + to(2, 3) + ESC + "[M"), "aaaa", "cccc", "dddd", "", "eeee");
+        house = after(set + margins + to(1, 3) + ESC + "[L" + ESC + "[M");
+        rows(house, "aaaa", "bbbb", "cccc", "dddd", "eeee");
         house = after(set + margins + to(5, 3) + ESC + "[L" + ESC + "[M");
         rows(house, "aaaa", "bbbb", "cccc", "dddd", "eeee");
         cursor(house, 4, 2, 0);

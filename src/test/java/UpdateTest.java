@@ -18,6 +18,7 @@ public final class UpdateTest {
         bells();
         tooMany();
         noRoom();
+        nothingIsDone();
         for (int seed = 1; seed <= 60; seed++) {
             reaches("am, xenl,", "", seed);
             reaches("am, xenl, msgr,", "", seed);
@@ -284,6 +285,35 @@ public final class UpdateTest {
         house.ticks(2000);
         Check.due("room, and the bell", house.update(), bytes + 1);
         Check.due("known", house.known(0, 2), 'y' + 256);
+    }
+
+    /** An update that comes to nothing leaves what is known, here of a screen that is not strange. */
+    private static void nothingIsDone() {
+        TerminalHouse house = house("ind=III, " + FULL, 4, 16);
+        saying(house, "one\ntwo\nthree", 2 + 3 + 2 + 3 + 2 + 5);
+        house.flags(128);
+        Check.write(house, "\t".repeat(1000));
+        Check.due("queue", house.count(5), 8000);
+        house.roll(0, 1);
+        house.dress(0, 9);
+        house.at(0, 3, 7);
+        Check.say(house, 0, "x\u0007");
+        house.show(0);
+        Check.due("no room", house.update(), -1);
+        String rows = "";
+        for (int y = 0; y < 4; y++) {
+            rows += (char) house.known(y, 0);
+        }
+        Check.due("known", rows, "ott ");
+        Check.due("known", house.known(3, 7), 32);
+        Check.due("row", house.count(15), 2);
+        Check.due("column", house.count(16), 5);
+        Check.due("on", house.count(14), 0);
+        house.ticks(2000);
+        // bel; to 3, 0; ind; to 3, 7; bold, rev, x, sgr0
+        Check.due("with room", house.update(), 2 + 2 + 3 + 2 + 2 + 1 + 1 + 1);
+        Check.due("known", house.known(3, 7), 'x' + 256 * 9);
+        Check.due("known", house.known(0, 0), 't');
     }
 
     /** Random windows: behind each update the terminal comes to have what is known and wanted. */
