@@ -75,6 +75,7 @@ public final class BytesSentTest {
         type(cup + "hpa=h, vpa=v,").at(1, 1).sends("C11").at(2, 1).sends("v").at(2, 2).sends("h").at(3, 3).sends("C33");
         // cup is measured with its own numbers
         type(cup + "cuf=f%p1%d,").at(0, 10).sends("f10").at(1, 10).sends("C110").at(0, 0).sends("C00");
+        type(cup + "hpa=hhh, cuf=f%p1%d,").at(0, 10).sends("hhh").at(0, 1).sends("C01").at(0, 9).sends("f8");
         // ahead of where it is by cr, and down
         type("clear=, cup=CCCC%p1%d%p2%d, cr=R, cud1=d, cuu1=u, cuf1=f,").at(0, 9).sends("CCCC09").at(2, 1)
             .sends("Rddf").at(0, 2).sends("uuf").at(0, 0).sends("R");
@@ -167,6 +168,10 @@ public final class BytesSentTest {
         BytesSentTest test = type("clear=, cup=C%p1%d%p2%d, sgr0=Z, bold=<b>, it#8, ht=T,").say(1, "a").sends("Z<b>aZ");
         test.say(0, "\u0007");
         Check.describe(test.house, "v,\n cols#10, lines#3, clear=L, cup=D%p1%d%p2%d, it#2, sgr0=Y, bel=G,\n");
+        Check.due("use", Check.use(test.house, "v"), 0);
+        Check.due("open", test.house.open(0, 0, 3, 10), 0);
+        test.house.empty();
+        Check.describe(test.house, "v,\n cols#10, lines#3, clear=L, cup=D%p1%d%p2%d, ht=T, sgr0=Y, bel=G,\n");
         Check.due("use", Check.use(test.house, "v"), 0);
         Check.due("open", test.house.open(0, 0, 3, 10), 0);
         test.say(1, "b").sends("YLb").at(0, 8).sends("D08").at(2, 9).sends("D29");

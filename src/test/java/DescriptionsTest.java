@@ -32,6 +32,8 @@ public final class DescriptionsTest {
     private static void right() {
         text("", 0, -1);
         text("\n\n", 0, -1);
+        text("#c", 0, -1);
+        text(" \t", 0, -1);
         text("# a comment, with anything|\n \t \n\n", 0, -1);
         text("a,", 0, -1);
         text("a,\n", 0, -1);

@@ -106,5 +106,12 @@ public final class StringsTest {
         put("%p1%d%p1%d%p1%d%p1%d%p1%d%p1%d%p1%d", Integer.MIN_VALUE, 0, 0, 0,
             "-2147483648".repeat(6).substring(0, 60));
         put("", 1, 2, 3, 4, "");
+        TerminalHouse house = new TerminalHouse(4, 16, 1);
+        Check.describe(house, "t,\n cols#16, lines#4, clear=, cup=, bel=%p4%d, dl=%p3%d,\n");
+        Check.use(house, "t");
+        Check.due("the first string", Check.expand(house, "bel", 1, 2, 3, 4), 1);
+        Check.due("out", Check.out(house), "4");
+        Check.due("the last string", Check.expand(house, "dl", 1, 2, 3, 4), 1);
+        Check.due("out", Check.out(house), "3");
     }
 }

@@ -344,6 +344,10 @@ public final class TerminalTest {
         rows(after(row + ESC + "[X"), "0123 56789abcdef");
         rows(after(row + ESC + "[3X"), "0123   789abcdef");
         rows(after(row + ESC + "[99X"), "0123");
+        String e = "EEEEEEEEEEEEEEEE";
+        rows(after(ESC + "#8" + to(2, 5) + ESC + "[99X"), e, "EEEE", e);
+        rows(after(ESC + "#8" + to(2, 5) + ESC + "[99@"), e, "EEEE", e);
+        rows(after(ESC + "#8" + to(2, 5) + ESC + "[99P"), e, "EEEE", e);
         cursor(after(row + ESC + "[3X" + ESC + "[3@" + ESC + "[3P"), 0, 4, 0);
         String wide = ESC + "#601234567" + to(1, 3);
         rows(after(wide + ESC + "[@"), "01 23456");
@@ -425,6 +429,10 @@ public final class TerminalTest {
         reading(ESC + "##", 2, "");
         reading(ESC + "(#", 2, "");
         reading(ESC + "$ /Ba", 0, "a");
+        reading(ESC + "$0a", 0, "a");
+        reading(ESC + "$/", 2, "");
+        reading(ESC + "[ @a", 0, "a");
+        reading(ESC + "[ ?", 4, "");
         reading(ESC + "#8" + ESC + "[2J" + "##", 0, "##");
         reading(ESC + "(]a", 0, "a");
         reading(ESC + "([a", 0, "a");

@@ -19,6 +19,7 @@ public final class UpdateTest {
         tooMany();
         noRoom();
         nothingIsDone();
+        justEnough();
         for (int seed = 1; seed <= 60; seed++) {
             reaches("am, xenl,", "", seed);
             reaches("am, xenl, msgr,", "", seed);
@@ -285,6 +286,26 @@ public final class UpdateTest {
         house.ticks(2000);
         Check.due("room, and the bell", house.update(), bytes + 1);
         Check.due("known", house.known(0, 2), 'y' + 256);
+    }
+
+    /** 6000 bytes are not too many, and just room enough is enough. */
+    private static void justEnough() {
+        for (int more = 0; more < 2; more++) {
+            for (int filled = 2000; filled <= 2001; filled++) {
+                TerminalHouse house = striped(3);
+                Check.write(house, "x".repeat(filled));
+                int w = house.open(0, 40, 1, 40);
+                Check.say(house, w, "z".repeat(40));
+                house.show(w);
+                w = house.open(1, 40, 1, 20);
+                Check.say(house, w, "z".repeat(13 + more));
+                house.show(w);
+                // sgr0; 72 times cup, bold, y and sgr0; cup and the z of two rows; cup
+                int bytes = 40 + 72 * 82 + 41 + 14 + 1;
+                Check.due("bytes", bytes, 6000);
+                Check.due("update", house.update(), more == 0 && filled == 2000 ? bytes : -1);
+            }
+        }
     }
 
     /** An update that comes to nothing leaves what is known, here of a screen that is not strange. */
