@@ -348,7 +348,8 @@ public final class TerminalHouse {
         if (type == null) {
             return false;
         }
-        painter.becomeStrange();
+        // a cursor that was known is known still: only the CELLS are STRANGE
+        painter.isStrange = true;
         return true;
     }
 
@@ -1023,6 +1024,10 @@ public final class TerminalHouse {
                     return false;
                 }
             }
+            // its LINE's end is a fault there, ahead of the STRING's own
+            if (byteAt(place) != ',') {
+                return failed(WRONG_BYTE, place);
+            }
             if (madeLength > MOST_STRING) {
                 return failed(TOO_LONG, start);
             }
@@ -1622,7 +1627,8 @@ public final class TerminalHouse {
             wanted.begin(0, 0, lines, columns);
             known.begin(0, 0, lines, columns);
             isBellWanted = false;
-            becomeStrange();
+            isStrange = true;
+            isPlaced = false;
             tabStep = type.has(HT) && type.has(IT) ? type.number(IT) : 0;
             offered = 0;
             for (int i = 0; i < 4; i++) {
@@ -1631,11 +1637,6 @@ public final class TerminalHouse {
                 }
             }
             measureStrings();
-        }
-
-        void becomeStrange() {
-            isStrange = true;
-            isPlaced = false;
         }
 
         private void measureStrings() {

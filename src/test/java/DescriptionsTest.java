@@ -167,6 +167,13 @@ public final class DescriptionsTest {
     private static void wrongStrings() {
         text("a,\n bel=x\n", 1, 9);
         text("a,\n bel=x", 1, 9);
+        text("a,\n bel=", 1, 8);
+        text("a,\n bel=\n", 1, 8);
+        text("a,\n bel=" + "x".repeat(41), 1, 49);
+        text("a,\n bel=" + "x".repeat(41) + "\n", 1, 49);
+        text("a,\n bel=" + "\\101".repeat(41) + "\n", 1, 172);
+        text("a,\n bel=" + "x".repeat(41) + "\\", 10, 49);
+        text("a,\n bel=x$<1\n", 1, 12);
         text("a,\n bel=x\u0001,\n", 1, 9);
         text("a,\n bel=" + "x".repeat(40) + ",\n", 0, -1);
         text("a,\n bel=" + "x".repeat(41) + ",\n", 2, 8);
@@ -238,8 +245,12 @@ public final class DescriptionsTest {
         text("a,\n ed=%'x', el=%'x,\n", 8, 16);
         text("a,\n ed=%{12}, el=%{12,\n", 8, 17);
         text("a,\n ed=%?%t%;, el=%?%t%,\n", 8, 18);
-        text("a,\n ed=%", 8, 7);
-        text("a,\n ed=%x\n", 8, 7);
+        // a line's end is a fault there, whatever the string before it is
+        text("a,\n ed=%", 1, 8);
+        text("a,\n ed=%{12", 1, 11);
+        text("a,\n ed=%x\n", 1, 9);
+        text("a,\n ed=%?%t\n am,\n", 1, 11);
+        text("a,\n ed=%x\\,\n", 1, 11);
         text("a,\n ed=%\u0001,\n", 1, 8);
     }
 

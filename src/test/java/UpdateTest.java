@@ -9,6 +9,7 @@ public final class UpdateTest {
 
     public static void main(String[] args) {
         leastType();
+        cursorBehindRedraw();
         motions();
         otherMotions();
         clothes();
@@ -76,8 +77,34 @@ public final class UpdateTest {
         Check.due("the last column", house.update(), 5);
         Check.due("column", house.count(16), 15);
         Check.due("redraw", house.redraw(), true);
-        Check.due("cursor behind redraw", house.count(16), -1);
+        Check.due("strange", house.known(0, 0), -1);
+        Check.due("row behind redraw", house.count(15), 2);
+        Check.due("column behind redraw", house.count(16), 15);
         Check.due("all anew", house.update(), 1 + 2 + 4 + 3 + 5);
+    }
+
+    /** A redraw makes the known cells strange; the known cursor is as it was. */
+    private static void cursorBehindRedraw() {
+        TerminalHouse house = house("cols#16, lines#4, clear=^L, cup=c%p1%d%p2%d,", 4, 16);
+        Check.due("redraw ahead of all updates", house.redraw(), true);
+        Check.due("no row is known", house.count(15), -1);
+        Check.due("no column is known", house.count(16), -1);
+        goTo(house, 1, 2, 1 + 3);
+        for (int i = 0; i < 2; i++) {
+            Check.due("redraw", house.redraw(), true);
+            Check.due("row", house.count(15), 1);
+            Check.due("column", house.count(16), 2);
+        }
+        house.at(0, 3, 3);
+        house.show(0);
+        Check.due("the row that is known, not that which is wanted", house.count(15), 1);
+        Check.due("all anew", house.update(), 1 + 3);
+        Check.due("row", house.count(15), 3);
+        Check.due("known again", house.known(0, 0), 32);
+        house.redraw();
+        Check.use(house, "t");
+        Check.due("no row at use", house.count(15), -1);
+        Check.due("no column at use", house.count(16), -1);
     }
 
     private static void motions() {
@@ -278,10 +305,14 @@ public final class UpdateTest {
         Check.due("queue", house.count(5), 2 * bytes);
         Check.say(house, 0, "\r\u0007");
         house.show(0);
+        int row = house.count(15);
+        int column = house.count(16);
         house.redraw();
         Check.due("no room", house.update(), -1);
         Check.due("queue", house.count(5), 2 * bytes);
         Check.due("strange still", house.known(0, 2), -1);
+        Check.due("the row is still known", row >= 0 && house.count(15) == row, true);
+        Check.due("the column is still known", column >= 0 && house.count(16) == column, true);
         house.ticks(2000);
         house.ticks(2000);
         Check.due("room, and the bell", house.update(), bytes + 1);
