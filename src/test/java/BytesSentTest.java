@@ -3,7 +3,7 @@
  * larger than the program's screen, shows one behind the other what was sent to it.
  */
 public final class BytesSentTest {
-    private final TerminalHouse house = new TerminalHouse(24, 80, 1);
+    final TerminalHouse house = new TerminalHouse(24, 80, 1);
     private int shown;
 
     private BytesSentTest(String fields) {
@@ -13,7 +13,7 @@ public final class BytesSentTest {
         Check.due("open", house.open(0, 0, 4, 16), 0);
     }
 
-    private BytesSentTest sends(String want) {
+    BytesSentTest sends(String want) {
         house.show(0);
         int bytes = house.update();
         Check.rest(house);
@@ -26,18 +26,18 @@ public final class BytesSentTest {
         return this;
     }
 
-    private BytesSentTest at(int y, int x) {
+    BytesSentTest at(int y, int x) {
         house.at(0, y, x);
         return this;
     }
 
-    private BytesSentTest say(int attributes, String text) {
+    BytesSentTest say(int attributes, String text) {
         house.dress(0, attributes);
         Check.say(house, 0, text);
         return this;
     }
 
-    private static BytesSentTest type(String fields) {
+    static BytesSentTest type(String fields) {
         return new BytesSentTest(fields);
     }
 

@@ -1,18 +1,32 @@
-/** What the tests share: answers that are due, and texts fed to a house's tape. */
+/**
+ * What the tests share: answers that are due, and texts fed to a house's tape. A house is promised for 512 calls, so
+ * no test makes more of them on one: what is here spares them.
+ */
 final class Check {
     static final String ESC = "\u001b";
 
     private static int done;
     private static int wrong;
+    private static String sentence = "";
 
     private Check() {
     }
 
+    /** The words of ../shared/DOC.md by which the answers behind this are due. */
+    static void says(String words) {
+        sentence = words;
+    }
+
     static void due(String what, long got, long want) {
+        compare(what, got == want, String.valueOf(got), String.valueOf(want));
+    }
+
+    private static void compare(String what, boolean same, String got, String want) {
         done++;
-        if (got != want) {
+        if (!same) {
             wrong++;
-            System.out.println(what + " answered " + got + ", due is " + want);
+            System.out.println(what + " answered " + got + ", due is " + want
+                + (sentence.isEmpty() ? "" : ", by: " + sentence));
         }
     }
 
@@ -21,11 +35,7 @@ final class Check {
     }
 
     static void due(String what, String got, String want) {
-        done++;
-        if (!got.equals(want)) {
-            wrong++;
-            System.out.println(what + " answered " + shown(got) + ", due is " + shown(want));
-        }
+        compare(what, got.equals(want), shown(got), shown(want));
     }
 
     private static String shown(String text) {
@@ -119,23 +129,25 @@ final class Check {
         rest(house);
     }
 
+    /** No byte of these tests takes the terminal more than four ticks, with a line of SPEED 1. */
     static void rest(TerminalHouse house) {
-        for (int i = 0; i < 400 && (i == 0 || house.count(5) + house.state(9) + house.state(10) > 0); i++) {
-            house.ticks(40);
+        int waiting = house.count(5);
+        for (int done = 0; done <= waiting; done += 400) {
+            house.ticks(2000);
         }
-        // what was still under way
-        house.ticks(40);
     }
 
     /** The first CELLS of a row of the terminal, without ATTRIBUTES, up to the last that is no BLANK. */
     static String row(TerminalHouse house, int y) {
         StringBuilder all = new StringBuilder();
         int end = 0;
-        for (int x = 0; house.screen(y, x) >= 0; x++) {
-            all.append((char) (house.screen(y, x) & 255));
-            if (house.screen(y, x) != 32) {
+        int cell = house.screen(y, 0);
+        for (int x = 0; cell >= 0; x++) {
+            all.append((char) (cell & 255));
+            if (cell != 32) {
                 end = x + 1;
             }
+            cell = house.screen(y, x + 1);
         }
         return all.substring(0, end);
     }

@@ -19,8 +19,6 @@ public final class CountsTest {
         Check.due("4, windows", house.count(4), 1);
         house.at(1, 1, 1);
         house.show(1);
-        Check.due("15 while strange", house.count(15), -1);
-        Check.due("16 while strange", house.count(16), -1);
         Check.due("update", house.update(), 1 + 3);
         Check.due("5, queue", house.count(5), 4);
         Check.due("14, on", house.count(14), 0);

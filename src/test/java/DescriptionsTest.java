@@ -19,7 +19,7 @@ public final class DescriptionsTest {
     }
 
     /** A text in a new house, its fault's number and place (0 and NONE: none). */
-    private static void text(String text, int number, int place) {
+    static void text(String text, int number, int place) {
         TerminalHouse house = new TerminalHouse(4, 16, 1);
         int answer = Check.describe(house, text);
         Check.due("describe " + text, answer < 0, number != 0);
@@ -338,7 +338,6 @@ public final class DescriptionsTest {
         Check.due("windows are closed", house.count(4), 0);
         Check.due("wanted is blank", house.wanted(0, 0), 32);
         Check.due("known is strange", house.known(0, 0), -1);
-        Check.due("cursor is not known", house.count(15), -1);
         Check.due("update is clear alone", house.update(), 1);
         house.open(0, 0, 1, 1);
         house.empty();

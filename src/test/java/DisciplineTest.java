@@ -23,7 +23,7 @@ public final class DisciplineTest {
     }
 
     /** Types a text: a key a byte, the controls with key 28. */
-    private static void type(TerminalHouse house, String text) {
+    static void type(TerminalHouse house, String text) {
         for (char c : text.toCharArray()) {
             boolean isControl = c < 32 || c == 127;
             int key = c == 127 ? '?' : c < 32 ? c + 64 : c;
@@ -41,7 +41,7 @@ public final class DisciplineTest {
         house.ticks(20);
     }
 
-    private static void readIs(TerminalHouse house, int n, String want) {
+    static void readIs(TerminalHouse house, int n, String want) {
         Check.due("read", house.read(n), want.length());
         Check.due("out", Check.out(house), want);
     }
@@ -323,7 +323,7 @@ public final class DisciplineTest {
 
     private static void fullReady() {
         TerminalHouse house = new TerminalHouse(6, 20, 1);
-        house.flags(0);
+        house.flags(2);
         house.key('a', true);
         house.ticks(1236);
         house.key('a', false);

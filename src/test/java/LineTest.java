@@ -103,11 +103,13 @@ public final class LineTest {
         house.ticks(2);
         Check.due("stopped", house.count(6), 1);
         Check.due("sent 19", house.count(12), 1);
+        // each scroll takes four ticks, so no number of bytes is passed over
         while (house.state(9) > 16 && ticks < 800) {
             Check.due("still full", house.state(13), 1);
-            house.ticks(1);
-            ticks++;
+            house.ticks(4);
+            ticks += 4;
         }
+        Check.due("sixteen", house.state(9), 16);
         Check.due("no cause", house.state(13), 0);
         house.ticks(1);
         Check.due("goes on", house.count(6), 0);

@@ -11,12 +11,16 @@ public final class NeverThrowsTest {
         "\u001b[1;2H\u001b[6n\u001b#6\u001b[L\u001b[2;4r", "\n\n\n\n\n\u001bM\u001b[3g\t\t\u001b[?6h", "one\ttwo\u0007\n",
         "\u0013", "\u0011", "\u001b[999@\u001b[999P\u001b[999X\u001b[999L\u001b[999M\u001b[999A", "\u001b[?7l\u001b[4h"};
 
+    private static final int MOST_CALLS_AT_ONCE = 30;
+    private static int callsLeft;
+
     public static void main(String[] args) {
         int wrong = 0;
-        for (int seed = 0; seed < 400; seed++) {
+        for (int seed = 0; seed < 1000; seed++) {
             Random random = new Random(seed);
             TerminalHouse house = new TerminalHouse(any(random), any(random), any(random));
-            for (int i = 0; i < 500; i++) {
+            callsLeft = 512;
+            while (callsLeft >= MOST_CALLS_AT_ONCE) {
                 int which = random.nextInt(46);
                 try {
                     call(house, which, random);
@@ -44,6 +48,7 @@ public final class NeverThrowsTest {
     }
 
     private static void call(TerminalHouse h, int which, Random r) {
+        callsLeft--;
         switch (which) {
             case 0: h.feed(any(r), any(r), any(r), any(r), any(r)); break;
             case 1: h.end(any(r)); break;
@@ -90,6 +95,7 @@ public final class NeverThrowsTest {
     }
 
     private static void useText(TerminalHouse h, String text, int how) {
+        callsLeft -= 7 + text.length() / 20;
         if (h.count(13) + text.length() > 2900) {
             h.end(0);
         }

@@ -8,7 +8,7 @@ public final class StringsTest {
         Check.finish("StringsTest");
     }
 
-    private static void put(String string, int a, int b, int c, int d, String want) {
+    static void put(String string, int a, int b, int c, int d, String want) {
         TerminalHouse house = new TerminalHouse(4, 16, 1);
         String text = "t,\n cols#16, lines#4, clear=, cup=,\n ed=" + string + ",\n";
         Check.due("describe " + string, Check.describe(house, text), 1);

@@ -29,30 +29,30 @@ public final class TerminalTest {
         Check.finish("TerminalTest");
     }
 
-    private static TerminalHouse after(String text) {
+    static TerminalHouse after(String text) {
         TerminalHouse house = Check.plainHouse(5, 16);
         Check.does(house, text);
         return house;
     }
 
-    private static void rows(TerminalHouse house, String... rows) {
+    static void rows(TerminalHouse house, String... rows) {
         for (int y = 0; y < rows.length; y++) {
             Check.due("row " + y, Check.row(house, y), rows[y]);
         }
     }
 
-    private static void cursor(TerminalHouse house, int y, int x, int pending) {
+    static void cursor(TerminalHouse house, int y, int x, int pending) {
         Check.due("row", house.state(0), y);
         Check.due("column", house.state(1), x);
         Check.due("pending", house.state(2), pending);
     }
 
-    private static String to(int row, int column) {
+    static String to(int row, int column) {
         return ESC + "[" + row + ";" + column + "H";
     }
 
     /** Five rows of letters, the cursor at row 2, column 2. */
-    private static String letters() {
+    static String letters() {
         return "aaaa\r\nbbbb\r\ncccc\r\ndddd\r\neeee" + to(3, 3);
     }
 
@@ -283,9 +283,6 @@ public final class TerminalTest {
         cursor(after("0123456789abcdef" + ESC + "#6"), 0, 7, 0);
         TerminalHouse house = after(ESC + "#601234567");
         cursor(house, 0, 7, 1);
-        // not set anew, so it stays
-        Check.does(house, ESC + "#3");
-        cursor(house, 0, 7, 1);
         Check.does(house, "8");
         rows(house, "01234567", "8");
         // the column is at most LAST wherever it goes
@@ -305,7 +302,7 @@ public final class TerminalTest {
         Check.due("width", house.width(2), 0);
         Check.due("width", house.width(3), 1);
         // what is erased wholly becomes plain
-        String wide = to(1, 1) + ESC + "#6" + to(2, 1) + ESC + "#6" + to(3, 1) + ESC + "#6";
+        String wide = to(1, 1) + ESC + "#6abcdefgh" + to(2, 1) + ESC + "#6abcdefgh" + to(3, 1) + ESC + "#6abcdefgh";
         String[] erased = {to(2, 2) + ESC + "[J", to(2, 1) + ESC + "[J", to(2, 7) + ESC + "[1J",
             to(2, 8) + ESC + "[1J", to(2, 2) + ESC + "[2J", to(2, 1) + ESC + "[2K"};
         String[] widths = {"110", "100", "011", "001", "000", "111"};

@@ -16,7 +16,7 @@ public final class WindowsTest {
         Check.finish("WindowsTest");
     }
 
-    private static TerminalHouse house(int lines, int columns) {
+    static TerminalHouse house(int lines, int columns) {
         TerminalHouse house = new TerminalHouse(lines, columns, 1);
         Check.describe(house, "t,\n cols#" + columns + ", lines#" + lines + ", clear=^L, cup=c%p1%d%p2%d,\n");
         Check.due("use", Check.use(house, "t"), 0);
@@ -33,14 +33,14 @@ public final class WindowsTest {
         return all.toString();
     }
 
-    private static void rowsAre(TerminalHouse house, int window, String... rows) {
+    static void rowsAre(TerminalHouse house, int window, String... rows) {
         for (int y = 0; y < rows.length; y++) {
             Check.due("row " + y, row(house, window, y), rows[y]);
         }
         Check.due("no row behind", house.look(window, rows.length, 0), -1);
     }
 
-    private static void cursorIs(TerminalHouse house, int window, int y, int x) {
+    static void cursorIs(TerminalHouse house, int window, int y, int x) {
         Check.due("cursor row", house.where(window, 4), y);
         Check.due("cursor column", house.where(window, 5), x);
     }
