@@ -164,6 +164,7 @@ public final class DisciplineBoundsTest {
         Check.due("7999", Check.write(house, "\r1234567"), 8);
         Check.due("lost", house.count(18), 0);
         Check.due("queue", house.count(5), 8000);
+        Check.says("(Only what is PUT counts, lost or not; UPDATE's bytes do not.)");
         Check.due("one more", Check.write(house, "x"), 0);
         Check.due("lost", house.count(18), 1);
         Check.due("lost or not, it counts", house.count(10), 8);

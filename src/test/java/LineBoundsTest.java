@@ -9,6 +9,7 @@ public final class LineBoundsTest {
         ticks();
         speeds();
         bothWays();
+        orderInATick();
         spoiled();
         spoiledToProgram();
         hushed();
@@ -28,6 +29,7 @@ public final class LineBoundsTest {
         neverRepeating();
         noRoom();
         controlled();
+        everyKey();
         Check.finish("LineBoundsTest");
     }
 
@@ -94,6 +96,50 @@ public final class LineBoundsTest {
         house.ticks(5);
         Check.due("there", house.screen(0, 0), 'a');
         Check.due("come", house.count(8), 1);
+    }
+
+    private static void orderInATick() {
+        Check.says("A TICK: TIME is one more; what ARRIVES now from the program comes to the terminal; what ARRIVES from the terminal COMES to the line discipline; if"
+            + " TIME is a multiple of 4 keys are SCANNED; the terminal ACTS; then, if its way is free, the terminal sends; if the other way is free, and THE"
+            + " QUEUE is not STOPPED, its first byte is sent.");
+        // what arrives is done, and answered, in one tick
+        TerminalHouse house = plain();
+        Check.write(house, ESC + "[5n");
+        house.ticks(4);
+        Check.due("not yet answered", house.count(12) + house.state(14), 0);
+        house.ticks(1);
+        Check.due("answered and sent", house.count(12), 1);
+        Check.due("three are left", house.state(14), 3);
+        // what comes is echoed, and the echo sent, in one tick
+        house = new TerminalHouse(4, 16, 1);
+        house.key('a', true);
+        house.ticks(4);
+        Check.due("on its way", house.count(12), 1);
+        Check.due("no echo", house.count(11), 0);
+        house.ticks(1);
+        Check.due("edited", house.count(7), 1);
+        Check.due("the echo is sent", house.count(11), 1);
+        Check.due("and no more in THE QUEUE", house.count(5), 0);
+        // a byte arrives ahead of the SCAN that ends HELD, and of what is done then: FULL by 48, though 47 are left
+        house = heldHouse(0);
+        Check.write(house, "x".repeat(47));
+        house.ticks(54);
+        Check.due("TIME", house.count(0) % 4, 2);
+        Check.due("47", house.state(9), 47);
+        Check.write(house, "y");
+        house.key(27, true);
+        house.ticks(2);
+        Check.due("HELD no more", house.state(11), 0);
+        Check.due("47", house.state(9), 47);
+        Check.due("FULL", house.state(13), 1);
+        // a 19 that arrives hushes what would be sent in that tick
+        house = plain();
+        house.ticks(2);
+        Check.write(house, "\u0013");
+        house.key('a', true);
+        house.ticks(2);
+        Check.due("HUSHED", house.state(12), 1);
+        Check.due("struck, but not sent", house.state(14), 1);
     }
 
     private static void spoiled() {
@@ -686,5 +732,46 @@ public final class LineBoundsTest {
         house.ticks(12);
         Check.due("read", house.read(9), 4);
         Check.due("as ever", Check.out(house), ESC + "[A\r");
+    }
+
+    /** What a key below 32 sends, by the modes CURSOR KEYS, KEYPAD and NEWLINE. */
+    private static String bytes(int key, boolean isCursor, boolean isPad, boolean isNewline) {
+        if (key < 4) {
+            return ESC + (isCursor ? "O" : "[") + "ABCD".charAt(key);
+        }
+        if (key < 8) {
+            return ESC + "O" + "PQRS".charAt(key - 4);
+        }
+        if (key < 21) {
+            return isPad ? ESC + "O" + "pqrstuvwxymln".charAt(key - 8) : String.valueOf("0123456789-,.".charAt(key - 8));
+        }
+        if (key == 21 && isPad) {
+            return ESC + "OM";
+        }
+        if (key <= 22) {
+            return isNewline ? "\r\n" : "\r";
+        }
+        return key <= 26 ? String.valueOf("\t\b\u007f\u001b".charAt(key - 23)) : "";
+    }
+
+    private static void everyKey() {
+        Check.says("0 1 2 3: ESC [ and A B C D, with CURSOR KEYS ESC O and these.");
+        for (int modes = 0; modes < 8; modes++) {
+            boolean isCursor = (modes & 1) != 0;
+            boolean isPad = (modes & 2) != 0;
+            boolean isNewline = (modes & 4) != 0;
+            String set = ESC + (isCursor ? "[?1h" : "[?1l") + ESC + (isPad ? "=" : ">") + ESC + (isNewline ? "[20h" : "[20l");
+            for (int key = 0; key <= 28; key++) {
+                TerminalHouse house = plain();
+                Check.write(house, set);
+                house.ticks(40);
+                house.key(key, true);
+                house.ticks(20);
+                String due = key == 27 ? "\u0013" : bytes(key, isCursor, isPad, isNewline);
+                Check.due("bytes of " + key + " with " + modes, house.read(9), due.isEmpty() ? -1 : due.length());
+                Check.due("key " + key + " with " + modes, Check.out(house), due);
+                Check.due("HELD", house.state(11), key == 27 ? 1 : 0);
+            }
+        }
     }
 }
